@@ -1,0 +1,91 @@
+/** Promises 5 to 9: cell, chain, step, straight, joint. */
+public final class ChainTest {
+    public static void main(String[] args) {
+        cells();
+        chainsAndSteps();
+        straightOnes();
+        joints();
+        Check.end();
+    }
+
+    private static void cells() {
+        BentYards x = Check.told("yard 3 2 3;house 2 1;chain 0 0 ee;");
+        int[] want = {2, 2, 2, 0, 0, 1};
+        for (int c = 0; c < want.length; c++) {
+            Check.due("cell " + c, x.cell(c), want[c]);
+        }
+        int[] bad = {-1, 6, 25, Integer.MIN_VALUE, Integer.MAX_VALUE};
+        for (int c : bad) {
+            Check.due("cell " + c, x.cell(c), BentYards.BAD);
+        }
+        x.close();
+        Check.due("open again", x.cell(1), 0);
+    }
+
+    private static void chainsAndSteps() {
+        BentYards x = Check.told("yard 5 4 1;chain 1 1 sseennnwwwsn;chain 4 3 n;");
+        // 1 1, s 1 2, s 1 3, e 2 3, e 3 3, n 3 2, n 3 1, n 3 0, w 2 0, w 1 0, w 0 0, s 0 1, n 0 0
+        int[][] want = {{6, 0, 12, 3}, {19, 14, 1, 1}};
+        for (int k = 0; k < 2; k++) {
+            for (int what = 0; what < 4; what++) {
+                Check.due("chain " + k + " " + what, x.chain(k, what), want[k][what]);
+            }
+        }
+        Check.row("step(0, i)", i -> x.step(0, i), "sseennnwwwsn");
+        Check.row("step(1, i)", i -> x.step(1, i), "n");
+        Check.due("chain what -1", x.chain(0, -1), BentYards.BAD);
+        Check.due("chain what 4", x.chain(0, 4), BentYards.BAD);
+        Check.due("chain -1", x.chain(-1, 0), BentYards.BAD);
+        Check.due("chain 2", x.chain(2, 0), BentYards.BAD);
+        Check.due("chain most", x.chain(Integer.MAX_VALUE, 0), BentYards.BAD);
+        Check.due("step i -1", x.step(0, -1), BentYards.BAD);
+        Check.due("step of no chain", x.step(2, 0), BentYards.BAD);
+        Check.due("step of no chain, far", x.step(4, 99), BentYards.BAD);
+        Check.due("step of chain -1", x.step(-1, 0), BentYards.BAD);
+    }
+
+    private static void straightOnes() {
+        String chains = "chain 0 0 esesee;chain 0 4 nnee;chain 0 0 eee;chain 0 0 eeee;";
+        int[][] want = {{5, 1, 1, 1}, {-9, -9, 2, 2}, {-9, -9, -9, 3}};
+        for (int limit = 1; limit <= 3; limit++) {
+            BentYards x = Check.told("yard 5 5 " + limit + ";" + chains);
+            for (int k = 0; k < 4; k++) {
+                Check.due("straight " + k + " by " + limit, x.straight(k), want[limit - 1][k]);
+            }
+            Check.due("straight -1", x.straight(-1), BentYards.BAD);
+            Check.due("straight 4", x.straight(4), BentYards.BAD);
+        }
+        BentYards y = Check.told("yard 5 5 2;chain 0 0 eewwee;chain 4 0 wwsssw;");
+        Check.due("turning about is not straight", y.straight(0), -9);
+        Check.due("straight behind another run", y.straight(1), 4);
+        Check.due("no chain 2", y.straight(2), BentYards.BAD);
+    }
+
+    private static void joints() {
+        BentYards x = Check.told("yard 5 5 2;chain 0 0 see;chain 2 1 es;chain 2 1 ne;chain 2 1 sn;");
+        // only the first one and the second one: the fourth one and the third one have n and n, 2 together
+        int[][] want = {{0, 1, 0, 0}, {0, 0, 0, 0}, {0, 0, 0, 0}, {0, 0, 0, 0}};
+        for (int k = 0; k < 4; k++) {
+            for (int l = 0; l < 4; l++) {
+                Check.due("joint " + k + " " + l, x.joint(k, l), want[k][l]);
+            }
+        }
+        BentYards y = Check.told("yard 5 5 1;chain 1 1 ewnswe;chain 2 1 nwse;chain 1 1 ew;chain 4 4 n;");
+        Check.due("of one with itself", y.joint(0, 0), 1);
+        Check.due("of one with itself, another direction", y.joint(1, 1), 0);
+        Check.due("the second begins where the first ends", y.joint(0, 2), 1);
+        Check.due("the other way about", y.joint(2, 0), 0);
+        Check.due("begins elsewhere", y.joint(3, 1), 0);
+        Check.due("joint -1", y.joint(-1, 0), BentYards.BAD);
+        Check.due("joint 0 -1", y.joint(0, -1), BentYards.BAD);
+        Check.due("joint 4", y.joint(4, 0), BentYards.BAD);
+        Check.due("joint 0 4", y.joint(0, 4), BentYards.BAD);
+        BentYards z = Check.told("yard 5 5 3;chain 0 0 ee;chain 2 0 ee;chain 2 0 es;");
+        Check.due("2 and 2 are over 3", z.joint(0, 1), 1);
+        Check.due("2 and 1 are not over 3", z.joint(0, 2), 0);
+        BentYards w = Check.told("yard 5 5 2;chain 0 0 seee;chain 3 1 s;chain 3 1 e;");
+        Check.due("a straight chain and another direction", w.joint(0, 1), 0);
+        Check.due("a straight chain and its direction", w.joint(0, 2), 1);
+        Check.due("no chain 3", w.joint(0, 3), BentYards.BAD);
+    }
+}

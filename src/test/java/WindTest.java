@@ -1,0 +1,140 @@
+/** Promises 13 to 16: lines, hedges, gusts, lot. */
+public final class WindTest {
+    public static void main(String[] args) {
+        lines();
+        longest();
+        noLines();
+        hedges();
+        hedgesInOrder();
+        gusts();
+        lot();
+        Check.end();
+    }
+
+    private static void lines() {
+        BentYards x = Check.told("yard 4 3 1;house 1 0;chain 0 2 e;");
+        // rows: 0; 2 3; 4 5 6 7; 10 11; columns: 0 4; 5; 2 6 10; 3 7 11
+        Check.due("how many", x.lines(0), 8);
+        Check.due("harm", x.lines(1), 0 + 1 + 3 + 1 + 1 + 0 + 2 + 2);
+        Check.due("cells of the longest", x.lines(2), 4);
+        Check.due("its first", x.lines(3), 4);
+        Check.due("in a row", x.lines(4), 0);
+        BentYards two = Check.told("yard 4 3 2;house 1 0;chain 0 2 e;");
+        Check.due("how many by 2", two.lines(0), 8);
+        Check.due("harm by 2", two.lines(1), 2 + 1 + 1);
+        int[] bad = {-1, 5, Integer.MIN_VALUE, Integer.MAX_VALUE};
+        for (int what : bad) {
+            Check.due("lines " + what, x.lines(what), BentYards.BAD);
+        }
+        BentYards board = new BentYards();
+        for (int c = 1; c < 25; c += 2) {
+            board.build(c);
+        }
+        Check.due("every other cell", board.lines(0), 26);
+        Check.due("harm of every other cell", board.lines(1), 0);
+    }
+
+    private static void longest() {
+        BentYards x = new BentYards();
+        Check.due("of several the first", x.lines(3), 0);
+        Check.due("of several one in a row", x.lines(4), 0);
+        x.build(2);
+        Check.due("the next row", x.lines(3), 5);
+        BentYards column = Check.told("yard 2 5 1;");
+        Check.due("in a column", column.lines(4), 1);
+        Check.due("five cells", column.lines(2), 5);
+        Check.due("from the top", column.lines(3), 0);
+        column.build(0);
+        Check.due("the other column", column.lines(3), 1);
+        BentYards one = Check.told("yard 1 1 1;");
+        Check.due("one cell is a line in its row and in its column", one.lines(0), 2);
+        Check.due("of one cell", one.lines(2), 1);
+        Check.due("in a row, as it's the first", one.lines(4), 0);
+    }
+
+    private static void noLines() {
+        BentYards x = Check.told("yard 2 1 1;chain 0 0 e;");
+        Check.due("no lines", x.lines(0), 0);
+        Check.due("no harm", x.lines(1), 0);
+        for (int what = 2; what <= 4; what++) {
+            Check.due("no longest " + what, x.lines(what), BentYards.NONE);
+        }
+        Check.due("no hedges", x.hedges(-1), 0);
+        Check.due("no first hedge", x.hedges(0), -5);
+        x.lot(77);
+        Check.due("no gusts", x.gusts(99), 0);
+        Check.due("the lot stays", x.lot(0), 77);
+    }
+
+    private static void hedges() {
+        BentYards x = Check.told("yard 5 1 1;");
+        Check.due("of five in a row", x.hedges(-1), 2);
+        Check.due("the first", x.hedges(0), 1);
+        Check.due("the second", x.hedges(1), 3);
+        Check.due("no third", x.hedges(2), -5);
+        BentYards three = Check.told("yard 5 1 3;");
+        Check.due("of five by 3", three.hedges(-1), 1);
+        Check.due("of several the first", three.hedges(0), 1);
+        BentYards all = Check.told("yard 3 3 2;");
+        Check.due("three rows, three columns", all.hedges(-1), 3);
+        // each row and each column one: 0, 4, 8 is the first
+        Check.due("hedge 0", all.hedges(0), 0);
+        Check.due("hedge 1", all.hedges(1), 4);
+        Check.due("hedge 2", all.hedges(2), 8);
+        BentYards much = Check.told("yard 3 3 1;");
+        for (int i = -1; i <= 2; i++) {
+            Check.due("four are wanted, " + i, much.hedges(i), BentYards.NONE);
+        }
+        Check.due("i -2", much.hedges(-2), BentYards.BAD);
+        Check.due("i 3", much.hedges(3), BentYards.BAD);
+        Check.due("i most", much.hedges(Integer.MAX_VALUE), BentYards.BAD);
+        Check.due("nothing becomes a hedge", all.lines(1), 6);
+    }
+
+    private static void hedgesInOrder() {
+        BentYards x = Check.told("yard 2 2 1;");
+        Check.due("2 by 2", x.hedges(-1), 2);
+        Check.due("2 by 2, the first", x.hedges(0), 0);
+        Check.due("2 by 2, the second", x.hedges(1), 3);
+        // a house and a chain are no cells for hedges: 0 2 3 4 are left of the row, 0 alone
+        BentYards y = Check.told("yard 5 1 1;house 1 0;");
+        Check.due("behind a house", y.hedges(-1), 1);
+        Check.due("behind a house, where", y.hedges(0), 3);
+        BentYards z = Check.told("yard 5 1 1;chain 0 0 e;");
+        Check.due("behind a chain, where", z.hedges(0), 3);
+        Check.due("no harm at all", Check.told("yard 3 3 3;").hedges(-1), 0);
+    }
+
+    private static void gusts() {
+        BentYards x = Check.told("yard 3 2 1;");
+        int[] harms = {2, 2, 1, 1, 1};
+        int lot = 1;
+        int sum = 0;
+        for (int i = 0; i < 99; i++) {
+            lot = lot * 1103515245 + 12345;
+            sum += harms[(lot >>> 16) % 5];
+            if (i == 0) {
+                Check.due("one gust", x.gusts(1), sum);
+                x.lot(1);
+            }
+        }
+        Check.due("99 gusts", x.gusts(99), sum);
+        Check.due("the lot went on", x.lot(-1), lot);
+        // a lot below 0: its upper 16 bits are still no number below 0
+        int below = 1103515245 * -1 + 12345;
+        Check.due("by a lot below 0", x.gusts(1), harms[(below >>> 16) % 5]);
+        int[] bad = {0, -1, 100, Integer.MIN_VALUE, Integer.MAX_VALUE};
+        for (int n : bad) {
+            Check.due("gusts " + n, x.gusts(n), BentYards.BAD);
+        }
+        Check.due("the lot went on by one alone", x.lot(0), below);
+    }
+
+    private static void lot() {
+        BentYards x = new BentYards();
+        Check.due("at first", x.lot(Integer.MIN_VALUE), 1);
+        Check.due("the least", x.lot(Integer.MAX_VALUE), Integer.MIN_VALUE);
+        Check.due("the most", x.lot(0), Integer.MAX_VALUE);
+        Check.due("zero", x.lot(1), 0);
+    }
+}
