@@ -12,7 +12,8 @@ public final class BentYards {
     private static final int MOST_LIMIT = 3;
     private static final int MOST_CHAINS = 4;
     private static final int MOST_STEPS = 12;
-    private static final int MOST_FIGURES = 9;
+    private static final int MOST_FIGURES = 999999999;
+    private static final int HIGHEST_FIGURE = 100000000;
     private static final int MOST_BYTES = 200;
     private static final int MOST_WAY = 60;
     private static final int MOST_WAYS = 20;
@@ -67,7 +68,7 @@ public final class BentYards {
 
     public int yard() {
         reader.begin();
-        while (!reader.isAtEnd() && reader.items < MOST_BYTES) {
+        for (int i = 0; i < MOST_BYTES && !reader.isAtEnd(); i++) {
             if (!reader.readItem()) {
                 return -10 - reader.place;
             }
@@ -385,15 +386,11 @@ public final class BentYards {
         /** Figures 1 to 4, the first step the highest; false if they are no steps. */
         boolean takeFigures(int figures) {
             length = 0;
-            int unit = 1;
-            for (int i = 1; i < MOST_FIGURES; i++) {
-                unit *= 10;
-            }
-            if (figures < 1 || figures / 10 >= unit) {
+            if (figures < 1 || figures > MOST_FIGURES) {
                 return false;
             }
             int left = figures;
-            for (; unit > 0; unit /= 10) {
+            for (int unit = HIGHEST_FIGURE; unit > 0; unit /= 10) {
                 if (figures >= unit && !addStep(left / unit - 1)) {
                     return false;
                 }
@@ -892,33 +889,38 @@ public final class BentYards {
             }
             for (int i = length - 1; i >= 0; i--) {
                 for (int state = 0; state < states; state++) {
-                    int d = bestStep(chain, i, state);
-                    differs[i * STATES + state] = differsBy(chain, i, state, d);
+                    differs[i * STATES + state] = fewestFrom(chain, i, state);
                 }
             }
-            int state = startOn(chain.first);
-            int fewest = differs[state];
+            int fewest = differs[startOn(chain.first)];
             if (fewest >= FAR) {
                 return NONE;
             }
-            for (int i = 0; i < length; i++) {
-                row[i] = bestStep(chain, i, state);
-                state = after(state, row[i]);
+            fillMended(chain, length);
+            return fewest;
+        }
+
+        private int fewestFrom(Chain chain, int i, int state) {
+            int fewest = FAR;
+            for (int d = 0; d < DIRECTIONS; d++) {
+                fewest = Math.min(fewest, differsBy(chain, i, state, d));
             }
             return fewest;
         }
 
-        /** The first direction behind which the fewest steps differ from the i-th on. */
-        private int bestStep(Chain chain, int i, int state) {
-            int best = 0;
-            for (int d = 1; d < DIRECTIONS; d++) {
-                if (differsBy(chain, i, state, d) < differsBy(chain, i, state, best)) {
-                    best = d;
+        private void fillMended(Chain chain, int length) {
+            int state = startOn(chain.first);
+            for (int i = 0; i < length && i < MOST_STEPS; i++) {
+                int d = 0;
+                while (d < DIRECTIONS - 1 && differsBy(chain, i, state, d) > fewestFrom(chain, i, state)) {
+                    d++;
                 }
+                row[i] = d;
+                state = after(state, d);
             }
-            return best;
         }
 
+        /** How many steps differ from the i-th on, if that one goes in a direction. */
         private int differsBy(Chain chain, int i, int state, int d) {
             int next = after(state, d);
             if (next < 0 || i < 0 || i >= MOST_STEPS) {

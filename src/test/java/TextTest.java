@@ -115,6 +115,12 @@ public final class TextTest {
         Check.fault("house 01 0;", 6);
         Check.fault("house 0 04;", 8);
         Check.fault("houses 0 0;", 0);
+        Check.fault("yarda 5 5 1;", 0);
+        Check.fault("yardz 5 5 1;", 0);
+        Check.fault("yard{ 5 5 1;", 4);
+        Check.fault("yard` 5 5 1;", 4);
+        Check.fault("yard 1/ 5 1;", 6);
+        Check.fault("yard 1: 5 1;", 6);
         Check.fault("hous 0 0;", 0);
         Check.fault("  housechain 0 0;", 2);
         Check.fault("7", 0);

@@ -105,6 +105,13 @@ public final class WayTest {
         BentYards z = Check.told("yard 4 1 2;chain 0 0 eeewe;");
         Check.due("in one row", z.mend(0, -1), 2);
         Check.row("mend in one row", i -> z.mend(0, i), "eewee");
+        BentYards twelve = Check.told("yard 5 5 2;house 2 2;chain 0 0 eeeesssswwww;");
+        Check.due("twelve steps", twelve.mend(0, -1), 3);
+        Check.row("mend twelve steps", i -> twelve.mend(0, i), "eesesnsswsww");
+        BentYards high = Check.told("yard 2 5 1;chain 0 0 ss;chain 0 3 nesw;");
+        Check.due("no way of two steps", high.mend(0, -1), BentYards.NONE);
+        Check.due("a round", high.mend(1, -1), 0);
+        Check.row("way(0, 8) of 2 by 5", i -> high.way(0, 8, i), "eswsesws");
     }
 
     private static void notMended() {

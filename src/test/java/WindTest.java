@@ -46,6 +46,8 @@ public final class WindTest {
         Check.due("from the top", column.lines(3), 0);
         column.build(0);
         Check.due("the other column", column.lines(3), 1);
+        BentYards second = Check.told("yard 4 1 1;house 1 0;");
+        Check.due("the second line is the longest", second.lines(3), 2);
         BentYards one = Check.told("yard 1 1 1;");
         Check.due("one cell is a line in its row and in its column", one.lines(0), 2);
         Check.due("of one cell", one.lines(2), 1);
@@ -103,6 +105,21 @@ public final class WindTest {
         BentYards z = Check.told("yard 5 1 1;chain 0 0 e;");
         Check.due("behind a chain, where", z.hedges(0), 3);
         Check.due("no harm at all", Check.told("yard 3 3 3;").hedges(-1), 0);
+        // of 2 by 3 cells every other one: 0, 3, 4 or 1, 2, 5
+        BentYards high = Check.told("yard 2 3 1;");
+        int[] want = {0, 3, 4};
+        for (int i = 0; i < 3; i++) {
+            Check.due("2 by 3, hedge " + i, high.hedges(i), want[i]);
+        }
+        Check.due("2 by 3, how many", high.hedges(-1), 3);
+        BentYards twice = Check.told("yard 5 1 1;");
+        twice.hedges(-1);
+        twice.build(2);
+        Check.due("looked at anew", twice.hedges(0), 0);
+        Check.due("looked at anew, the second", twice.hedges(1), 3);
+        BentYards column = Check.told("yard 1 5 3;");
+        Check.due("in a column", column.hedges(-1), 1);
+        Check.due("in a column, where", column.hedges(0), 1);
     }
 
     private static void gusts() {
