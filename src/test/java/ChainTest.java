@@ -2,9 +2,12 @@
 public final class ChainTest {
     public static void main(String[] args) {
         cells();
+        cellsOfChainsThatCross();
         chainsAndSteps();
         straightOnes();
         joints();
+        jointsByLimit();
+        noChains();
         Check.end();
     }
 
@@ -20,6 +23,23 @@ public final class ChainTest {
         }
         x.close();
         Check.due("open again", x.cell(1), 0);
+    }
+
+    /** "over themselves and others, too": a cell stays a chain's until the last chain there goes. */
+    private static void cellsOfChainsThatCross() {
+        BentYards x = Check.told("chain 1 1 ewew;chain 1 0 ss;chain 2 1 n;chain 3 3 wenwse;");
+        Check.due("crossed", x.cell(6), 2);
+        Check.due("a round comes to its first cell", x.chain(3, 1), 18);
+        Check.due("to and fro", x.chain(0, 1), 6);
+        x.close();
+        x.close();
+        Check.due("one goes, one stays", x.cell(7), 2);
+        Check.due("one alone had it", x.cell(2), 0);
+        x.close();
+        Check.due("the crossed one stays", x.cell(6), 2);
+        Check.due("the other's end goes", x.cell(11), 0);
+        x.close();
+        Check.due("none is left", x.cell(6), 0);
     }
 
     private static void chainsAndSteps() {
@@ -87,5 +107,52 @@ public final class ChainTest {
         Check.due("a straight chain and another direction", w.joint(0, 1), 0);
         Check.due("a straight chain and its direction", w.joint(0, 2), 1);
         Check.due("no chain 3", w.joint(0, 3), BentYards.BAD);
+    }
+
+    /** "together longer than LIMIT": as long as LIMIT, and less, is none. */
+    private static void jointsByLimit() {
+        for (int limit = 1; limit <= 3; limit++) {
+            for (int one = 1; one <= 3; one++) {
+                for (int two = 1; one + two <= 4; two++) {
+                    BentYards x = Check.told("yard 5 5 " + limit + ";chain 0 0 s" + "e".repeat(one) + ";chain "
+                            + one + " 1 " + "e".repeat(two) + "s;");
+                    String call = "joint of " + one + " and " + two + " by " + limit;
+                    Check.due(call, x.joint(0, 1), one + two > limit ? 1 : 0);
+                    Check.due(call + ", the other way about", x.joint(1, 0), 0);
+                }
+            }
+        }
+        BentYards whole = Check.told("yard 5 5 3;chain 0 0 ee;chain 2 0 ee;chain 4 0 ww;chain 2 0 w;");
+        Check.due("one run each, over 3", whole.joint(0, 1), 1);
+        Check.due("turning about", whole.joint(1, 2), 0);
+        Check.due("2 and 1 are 3", whole.joint(2, 3), 0);
+        Check.due("ends elsewhere, the same direction", whole.joint(0, 0), 0);
+        BentYards turning = Check.told("yard 5 5 3;chain 0 0 eewe;chain 2 0 ewee;");
+        Check.due("the last run and the first run alone", turning.joint(0, 1), 0);
+    }
+
+    /** "BAD (there is no such thing)": of no chains each number is none. */
+    private static void noChains() {
+        BentYards x = new BentYards();
+        int[] ks = {0, 1, -1, 3, 4, Integer.MIN_VALUE, Integer.MAX_VALUE};
+        for (int k : ks) {
+            for (int what = 0; what < 4; what++) {
+                Check.due("chain " + k + " " + what + " of none", x.chain(k, what), BentYards.BAD);
+            }
+            Check.due("step of none " + k, x.step(k, 0), BentYards.BAD);
+            Check.due("straight of none " + k, x.straight(k), BentYards.BAD);
+            Check.due("joint of none " + k, x.joint(k, k), BentYards.BAD);
+            Check.due("mend of none " + k, x.mend(k, -1), BentYards.BAD);
+            Check.due("mark of none " + k, x.mark(0, k), BentYards.NO);
+        }
+        BentYards four = Check.told("chain 0 0 e;chain 0 0 e;chain 0 0 e;chain 0 0 e;");
+        Check.due("the fourth", four.chain(3, 2), 1);
+        Check.due("no fifth", four.chain(4, 2), BentYards.BAD);
+        four.close();
+        Check.due("closed, so none", four.chain(3, 2), BentYards.BAD);
+        Check.due("closed, so no step", four.step(3, 0), BentYards.BAD);
+        Check.due("closed, so not straight", four.straight(3), BentYards.BAD);
+        Check.due("closed, so no joint", four.joint(0, 3), BentYards.BAD);
+        Check.due("closed, so not mended", four.mend(3, -1), BentYards.BAD);
     }
 }

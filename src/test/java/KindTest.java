@@ -5,8 +5,11 @@ public final class KindTest {
         marks();
         glances();
         badMarks();
+        marksOfEachKind();
         images();
         badImages();
+        imagesOfNothing();
+        imagesAreGone();
         counts();
         Check.end();
     }
@@ -63,6 +66,31 @@ public final class KindTest {
         Check.due("trace", x.trace(), 0);
     }
 
+    /** Each kind's bodies from it up to CHAIN, of 1 and of 12 steps; what is refused asks no body. */
+    private static void marksOfEachKind() {
+        BentYards x = Check.told("yard 5 5 3;chain 0 0 e;chain 0 0 eeeesssswwww;chain 0 4 en;chain 2 2 nnss;");
+        int[][] want = {{1, 2, 0, 2, 1, 1}, {12, 24, 8, 25, 8 + 4 + 2, 12}, {2, 4, 1, 6, 1 + 2, 2}, {4, 8, 2, 11, 2, 4}};
+        long[] trace = {1, 11, 101, 1011, 10101, 100001};
+        long sum = 0;
+        for (int k = 0; k < 4; k++) {
+            for (int kind = 0; kind < 6; kind++) {
+                Check.due("mark of kind " + kind + " of chain " + k, x.mark(kind, k), want[k][kind]);
+                sum += trace[kind];
+                Check.due("its trace", x.trace(), sum);
+                Check.due("no such chain", x.mark(kind, 4), BentYards.NO);
+                Check.due("no such chain below", x.mark(kind, -1), BentYards.NO);
+                Check.due("the trace stays", x.trace(), sum);
+            }
+            Check.due("no such kind", x.mark(6, k), BentYards.NO);
+            Check.due("no such kind below", x.mark(-1, k), BentYards.NO);
+        }
+        Check.due("the trace stays at last", x.trace(), sum);
+        for (int i = 0; i < 400; i++) {
+            x.mark(5, 0);
+        }
+        Check.due("the trace of many", x.trace(), sum + 400 * 100001);
+    }
+
     private static void images() {
         BentYards x = Check.told("yard 4 4 2;house 3 3;chain 0 0 es;chain 0 3 n;");
         x.lot(5);
@@ -111,6 +139,57 @@ public final class KindTest {
         x.keep(1);
         Check.due("back 0", x.back(0), BentYards.STATE);
         Check.due("back 1", x.back(1), 0);
+    }
+
+    /** An image of no houses and no chains is one, too; BAD stands ahead of STATE. */
+    private static void imagesOfNothing() {
+        BentYards x = new BentYards();
+        Check.due("none was kept", x.back(0), BentYards.STATE);
+        Check.due("no such image, none was kept", x.back(2), BentYards.BAD);
+        Check.due("keep nothing", x.keep(0), 0);
+        Check.due("the other one is none", x.back(1), BentYards.STATE);
+        x.build(3);
+        x.street(12, 1234);
+        x.lot(4);
+        Check.due("no such image", x.back(-1), BentYards.BAD);
+        Check.due("none was kept there", x.back(1), BentYards.STATE);
+        Check.due("houses stay by a refused back", x.count(3), 1);
+        Check.due("chains stay by a refused back", x.count(4), 1);
+        Check.due("back to nothing", x.back(0), 0);
+        Check.due("no houses", x.count(3), 0);
+        Check.due("no chains", x.count(4), 0);
+        Check.due("no chain on a cell", x.cell(12), 0);
+        Check.due("the lot of nothing", x.lot(4), 1);
+        BentYards four = Check.told("chain 0 0 e;chain 0 0 s;chain 4 4 n;chain 4 4 w;");
+        Check.due("keep four", four.keep(1), 4);
+        for (int i = 0; i < 4; i++) {
+            four.close();
+        }
+        Check.due("back to four", four.back(1), 4);
+        Check.due("the fourth", four.chain(3, 1), 23);
+        Check.due("full again", four.street(12, 1), BentYards.FULL);
+    }
+
+    /** "Read anew: all as told, IMAGES are gone; THE LOT, 1 at first, stays." A fault reads nothing. */
+    private static void imagesAreGone() {
+        BentYards x = Check.told("yard 3 3 2;house 1 1;chain 0 0 e;");
+        x.lot(-6);
+        x.keep(0);
+        x.lot(-7);
+        Check.type(x, "yard 3 3 2;house 1 1;chain 0 0 e");
+        Check.due("a fault", x.yard(), -10 - 32);
+        Check.due("the image stays by a fault", x.back(0), 1);
+        Check.due("and its lot", x.lot(-7), -6);
+        x.type(';', 1);
+        Check.due("the same once more", x.yard(), 3);
+        Check.due("image 0 is gone", x.back(0), BentYards.STATE);
+        Check.due("image 1 is gone", x.back(1), BentYards.STATE);
+        Check.due("the lot stays", x.lot(1), -7);
+        x.keep(1);
+        x.yard();
+        Check.due("gone by an empty text", x.back(1), BentYards.STATE);
+        Check.due("keep anew", x.keep(1), 0);
+        Check.due("back anew", x.back(1), 0);
     }
 
     private static void counts() {

@@ -3,10 +3,15 @@ public final class WindTest {
     public static void main(String[] args) {
         lines();
         longest();
+        longestOfSeveral();
+        harmByLimit();
         noLines();
         hedges();
         hedgesInOrder();
+        hedgesAtTheEnds();
         gusts();
+        gustsWithoutHarm();
+        lotWraps();
         lot();
         Check.end();
     }
@@ -52,6 +57,48 @@ public final class WindTest {
         Check.due("one cell is a line in its row and in its column", one.lines(0), 2);
         Check.due("of one cell", one.lines(2), 1);
         Check.due("in a row, as it's the first", one.lines(4), 0);
+    }
+
+    /** "the LINE with the most CELLS, of several the first by that order": rows, then columns. */
+    private static void longestOfSeveral() {
+        BentYards x = Check.told("yard 3 5 1;house 0 2;");
+        Check.due("the second column", x.lines(3), 1);
+        Check.due("the second column, cells", x.lines(2), 5);
+        Check.due("the second column is a column", x.lines(4), 1);
+        x.build(7);
+        Check.due("the last column", x.lines(3), 2);
+        Check.due("the last column is a column", x.lines(4), 1);
+        x.build(8);
+        Check.due("a row as long as others", x.lines(3), 0);
+        Check.due("a row as long as others is a row", x.lines(4), 0);
+        // a plus: the row in the midst, as long as the column in the midst
+        BentYards plus = Check.told("yard 3 3 1;house 0 0;house 2 0;house 0 2;house 2 2;");
+        Check.due("of a row and a column the row", plus.lines(4), 0);
+        Check.due("of a row and a column the row's first", plus.lines(3), 3);
+        BentYards parts = Check.told("yard 5 1 1;house 2 0;");
+        Check.due("of equal parts of a row the first", parts.lines(3), 0);
+        parts.build(0);
+        Check.due("the longer part", parts.lines(3), 3);
+        BentYards low = Check.told("yard 2 4 1;house 0 1;");
+        Check.due("in a column behind a shorter one", low.lines(3), 1);
+        BentYards below = Check.told("yard 2 5 1;house 0 1;house 1 0;house 1 4;");
+        Check.due("a column's line that begins below", below.lines(3), 4);
+        Check.due("its cells", below.lines(2), 3);
+    }
+
+    /** "how many CELLS it has more than LIMIT (0 at least)", "(a CELL alone, too)". */
+    private static void harmByLimit() {
+        for (int limit = 1; limit <= 3; limit++) {
+            for (int n = 1; n <= 5; n++) {
+                BentYards x = Check.told("yard " + n + " 1 " + limit + ";");
+                Check.due("lines of a row of " + n, x.lines(0), 1 + n);
+                Check.due("harm of a row of " + n + " by " + limit, x.lines(1), n > limit ? n - limit : 0);
+                BentYards y = Check.told("yard 1 " + n + " " + limit + ";");
+                Check.due("harm of a column of " + n + " by " + limit, y.lines(1), n > limit ? n - limit : 0);
+                BentYards z = Check.told("yard " + n + " " + n + " " + limit + ";");
+                Check.due("harm of " + n + " by " + n + ", " + limit, z.lines(1), n > limit ? 2 * n * (n - limit) : 0);
+            }
+        }
     }
 
     private static void noLines() {
@@ -122,6 +169,53 @@ public final class WindTest {
         Check.due("in a column, where", column.hedges(0), 1);
     }
 
+    /** "the fewest OPEN CELLS (0 .. 3)", "NONE: 3 are too few": each number, and one more. */
+    private static void hedgesAtTheEnds() {
+        // rows of 2 open cells, a row of houses between them: each wants one hedge
+        String[] pairs = {"house 0 1;house 1 1;", "house 0 3;house 1 3;"};
+        BentYards none = Check.told("yard 1 1 1;");
+        Check.due("0 hedges", none.hedges(-1), 0);
+        for (int i = 0; i <= 2; i++) {
+            Check.due("0 hedges, " + i, none.hedges(i), -5);
+        }
+        BentYards one = Check.told("yard 2 1 1;");
+        Check.due("1 hedge", one.hedges(-1), 1);
+        Check.due("1 hedge, where", one.hedges(0), 0);
+        Check.due("1 hedge, no second", one.hedges(1), -5);
+        Check.due("1 hedge, no third", one.hedges(2), -5);
+        BentYards two = Check.told("yard 2 3 1;" + pairs[0]);
+        Check.due("2 hedges", two.hedges(-1), 2);
+        Check.due("2 hedges, the second", two.hedges(1), 4);
+        Check.due("2 hedges, no third", two.hedges(2), -5);
+        BentYards three = Check.told("yard 2 5 1;" + pairs[0] + pairs[1]);
+        int[] want = {3, 0, 4, 8};
+        for (int i = -1; i <= 2; i++) {
+            Check.due("3 hedges, " + i, three.hedges(i), want[i + 1]);
+        }
+        // four pairs of cells that do not touch: one more than 3
+        BentYards four = Check.told("yard 5 3 1;house 2 0;house 2 2;house 0 1;house 1 1;house 2 1;house 3 1;house 4 1;");
+        for (int i = -1; i <= 2; i++) {
+            Check.due("4 hedges are wanted, " + i, four.hedges(i), BentYards.NONE);
+        }
+        Check.due("BAD is ahead of NONE", four.hedges(3), BentYards.BAD);
+        Check.due("BAD is ahead of NONE below", four.hedges(-2), BentYards.BAD);
+        four.build(0);
+        Check.due("3 are enough then", four.hedges(-1), 3);
+        int[] left = {3, 10, 13};
+        for (int i = 0; i <= 2; i++) {
+            Check.due("3 are enough then, " + i, four.hedges(i), left[i]);
+        }
+        // hedges go up to the last cell of the yard
+        BentYards last = new BentYards();
+        for (int c = 0; c < 23; c++) {
+            last.build(c);
+        }
+        Check.due("the last two cells", last.hedges(0), 23);
+        last.raze(19);
+        Check.due("a corner of three", last.hedges(-1), 1);
+        Check.due("a corner of three, its last cell", last.hedges(0), 24);
+    }
+
     private static void gusts() {
         BentYards x = Check.told("yard 3 2 1;");
         int[] harms = {2, 2, 1, 1, 1};
@@ -153,5 +247,42 @@ public final class WindTest {
         Check.due("the least", x.lot(Integer.MAX_VALUE), Integer.MIN_VALUE);
         Check.due("the most", x.lot(0), Integer.MAX_VALUE);
         Check.due("zero", x.lot(1), 0);
+    }
+
+    /** "(no LINES: 0, THE LOT stays)": with lines that have no harm it goes on. */
+    private static void gustsWithoutHarm() {
+        BentYards x = Check.told("yard 3 3 3;");
+        Check.due("no harm", x.gusts(1), 0);
+        Check.due("the lot went on", x.lot(1), 1103527590);
+        Check.due("no harm by 99", x.gusts(99), 0);
+        Check.due("the lot went on by 99", x.lot(0), 1447624116);
+        BentYards shut = Check.told("yard 1 1 1;house 0 0;");
+        Check.due("no lines", shut.gusts(1), 0);
+        Check.due("the lot stays", shut.lot(5), 1);
+        Check.due("BAD without lines", shut.gusts(0), BentYards.BAD);
+        Check.due("BAD without lines, too many", shut.gusts(100), BentYards.BAD);
+        Check.due("the lot stays again", shut.lot(0), 5);
+        shut.raze(0);
+        Check.due("one cell, no harm", shut.gusts(1), 0);
+        Check.due("two lines, so the lot goes on", shut.lot(0), 12345);
+    }
+
+    /** "times 1103515245 and 12345, wrapped; DRAW: its upper 16 bits, left over by how many LINES". */
+    private static void lotWraps() {
+        int[] from = {1, 0, -1, Integer.MAX_VALUE, Integer.MIN_VALUE, 77};
+        int[] next = {1103527590, 12345, -1103502900, 1043980748, -2147471303, -928659710};
+        int[] upper = {16838, 0, 48697, 15929, 32768, 51365};
+        int[] third = {662824084, -1492899873, 646343466, -1501140182, 654583775, 1289087568};
+        // two lines of two cells in the row, then four columns of one cell
+        BentYards x = Check.told("yard 5 1 1;house 2 0;");
+        int[] harms = {1, 1, 0, 0, 0, 0};
+        Check.due("how many lines", x.lines(0), harms.length);
+        for (int i = 0; i < from.length; i++) {
+            x.lot(from[i]);
+            Check.due("a gust by " + from[i], x.gusts(1), harms[upper[i] % harms.length]);
+            Check.due("the lot behind " + from[i], x.lot(from[i]), next[i]);
+            x.gusts(3);
+            Check.due("the lot thrice behind " + from[i], x.lot(0), third[i]);
+        }
     }
 }
