@@ -85,10 +85,10 @@ public final class KindTest {
             Check.due("no such kind below", x.mark(-1, k), BentYards.NO);
         }
         Check.due("the trace stays at last", x.trace(), sum);
-        for (int i = 0; i < 400; i++) {
+        for (int i = 0; i < 300; i++) {
             x.mark(5, 0);
         }
-        Check.due("the trace of many", x.trace(), sum + 400 * 100001);
+        Check.due("the trace of many", x.trace(), sum + 300 * 100001);
     }
 
     private static void images() {

@@ -2,13 +2,15 @@ import java.util.Random;
 
 /** Random runs of calls, each answered by the class and by the model: the answers are the same. */
 public final class ModelTest {
-    private static final int RUNS = 120;
-    private static final int CALLS = 200;
+    private static final int RUNS = 500;
+    /** An object answers 512 calls; what is begun below this number ends below that one. */
+    private static final int CALLS = 380;
 
     private final Random random;
     private final BentYards x = new BentYards();
     private final Model m = new Model();
     private final String run;
+    private int calls = 0;
 
     private ModelTest(int seed) {
         random = new Random(seed);
@@ -20,7 +22,7 @@ public final class ModelTest {
         int first = args.length > 1 ? Integer.parseInt(args[1]) : 0;
         for (int seed = first; seed < first + runs; seed++) {
             ModelTest test = new ModelTest(seed);
-            for (int i = 0; i < CALLS; i++) {
+            while (test.calls < CALLS) {
                 test.call();
             }
         }
@@ -44,6 +46,7 @@ public final class ModelTest {
     }
 
     private void due(String call, long got, long want) {
+        calls++;
         Check.due(run + call, got, want);
     }
 

@@ -14,7 +14,7 @@ public final class RowsTest {
     private final int high;
     private final int limit;
     private final boolean[] isHouse;
-    private final BentYards x;
+    private final String text;
     /** Of a row's length the rows that stand, in their order, each with its last cell. */
     private final List<List<String>> rows = new ArrayList<>();
     private final List<List<Integer>> ends = new ArrayList<>();
@@ -24,15 +24,15 @@ public final class RowsTest {
         high = 1 + random.nextInt(5);
         limit = 1 + random.nextInt(3);
         isHouse = new boolean[wide * high];
-        StringBuilder text = new StringBuilder("yard " + wide + " " + high + " " + limit + ";");
+        StringBuilder told = new StringBuilder("yard " + wide + " " + high + " " + limit + ";");
         int share = random.nextInt(4);
-        for (int c = 0; c < isHouse.length && text.length() < 190; c++) {
+        for (int c = 0; c < isHouse.length && told.length() <= 190; c++) {
             if (random.nextInt(10) < share) {
                 isHouse[c] = true;
-                text.append("house ").append(c % wide).append(' ').append(c / wide).append(';');
+                told.append("house ").append(c % wide).append(' ').append(c / wide).append(';');
             }
         }
-        x = Check.told(text.toString());
+        text = told.toString();
     }
 
     public static void main(String[] args) {
@@ -98,6 +98,8 @@ public final class RowsTest {
             if (isHouse[b]) {
                 continue;
             }
+            // an object answers 512 calls: a new one for each pair of cells
+            BentYards x = Check.told(text);
             String first = null;
             for (int n = 0; n <= LONGEST; n++) {
                 long number = 0;
@@ -109,11 +111,11 @@ public final class RowsTest {
                 }
                 Check.due("ways(" + a + ", " + b + ", " + n + ")", x.ways(a, b, n), number);
             }
-            compareWay(a, b, first);
+            compareWay(x, a, b, first);
         }
     }
 
-    private void compareWay(int a, int b, String first) {
+    private static void compareWay(BentYards x, int a, int b, String first) {
         int steps = x.way(a, b, -1);
         if (first == null) {
             Check.due("way(" + a + ", " + b + ") is longer or none", steps > LONGEST || steps == -9 ? 1 : 0, 1);

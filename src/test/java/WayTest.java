@@ -122,8 +122,8 @@ public final class WayTest {
         Check.due("shut in, into", x.way(24, 0, -1), BentYards.NONE);
         Check.due("shut in, 0 steps", x.ways(0, 0, 0), 1);
         Check.due("shut in, 2 steps", x.ways(0, 0, 2), 0);
-        BentYards all = new BentYards();
         for (int a = 0; a < 25; a++) {
+            BentYards all = new BentYards();
             for (int b = 0; b < 25; b++) {
                 Check.due("0 steps from " + a + " to " + b, all.ways(a, b, 0), a == b ? 1 : 0);
                 Check.due("is it 0 steps from " + a + " to " + b, all.way(a, b, -1) == 0 ? 1 : 0, a == b ? 1 : 0);
