@@ -4,6 +4,7 @@ public final class WindTest {
         lines();
         longest();
         longestOfSeveral();
+        longestOfFewerLines();
         harmByLimit();
         noLines();
         hedges();
@@ -84,6 +85,34 @@ public final class WindTest {
         BentYards below = Check.told("yard 2 5 1;house 0 1;house 1 0;house 1 4;");
         Check.due("a column's line that begins below", below.lines(3), 4);
         Check.due("its cells", below.lines(2), 3);
+    }
+
+    /** The lines are those of now: of ten lines of five cells nothing is left when there are two of one. */
+    private static void longestOfFewerLines() {
+        BentYards x = new BentYards();
+        Check.due("five cells of ten lines", x.lines(2), 5);
+        Check.due("harm of ten lines", x.lines(1), 40);
+        Check.tell(x, "yard 1 1 1;");
+        int[] want = {2, 0, 1, 0, 0};
+        for (int what = 0; what < want.length; what++) {
+            Check.due("of two lines then, " + what, x.lines(what), want[what]);
+        }
+        Check.due("no hedges then", x.hedges(-1), 0);
+        x.build(0);
+        for (int what = 2; what <= 4; what++) {
+            Check.due("of no lines then, " + what, x.lines(what), BentYards.NONE);
+        }
+        BentYards y = new BentYards();
+        y.lines(0);
+        for (int c = 5; c < 25; c++) {
+            y.build(c);
+        }
+        y.build(2);
+        // 0 1 and 3 4 in the row, then four columns of one cell
+        int[] fewer = {6, 2, 2, 0, 0};
+        for (int what = 0; what < fewer.length; what++) {
+            Check.due("of six lines then, " + what, y.lines(what), fewer[what]);
+        }
     }
 
     /** "how many CELLS it has more than LIMIT (0 at least)", "(a CELL alone, too)". */
